@@ -55,7 +55,6 @@ public final class CoatWorks {
     private final Tape tape = new Tape();
     private final Works now = new Works();
     private final Works[] kept = new Works[IMAGES];
-    private final boolean[] isKept = new boolean[IMAGES];
     private final Planner planner = new Planner();
     private final Finder finder = new Finder();
     private final Spotter spotter = new Spotter();
@@ -68,9 +67,6 @@ public final class CoatWorks {
     private int latestFault = 0;
 
     public CoatWorks() {
-        for (int k = 0; k < IMAGES; k++) {
-            kept[k] = new Works();
-        }
     }
 
     // ---- the tape ----
@@ -605,13 +601,15 @@ public final class CoatWorks {
         if (!within(k, 0, IMAGES - 1)) {
             return false;
         }
+        if (kept[k] == null) {
+            kept[k] = new Works();
+        }
         kept[k].copyFrom(now);
-        isKept[k] = true;
         return true;
     }
 
     public boolean restore(int k) {
-        if (!within(k, 0, IMAGES - 1) || !isKept[k]) {
+        if (!within(k, 0, IMAGES - 1) || kept[k] == null) {
             return false;
         }
         now.copyFrom(kept[k]);
@@ -680,16 +678,23 @@ public final class CoatWorks {
         private static final int LONGEST_WORD = 7;
         private static final int LONGEST_NUMBER = 3;
 
-        private final int[] bytes = new int[MOST];
         private final long[] wordCodes = codesOf(WORDS);
+        private final int[] bytes = new int[MOST];
         private int size = 0;
 
-        private int limit = 0;
-        private int next = 0;
+        // the TOKENS of a text, the last of which is END or WRONG
+        private final int[] kinds = new int[MOST + 1];
+        private final int[] places = new int[MOST + 1];
+        private final int[] values = new int[MOST + 1];
+        private final long[] names = new long[MOST + 1];
+
+        // the TOKEN that stands
+        private int cursor = 0;
         private int kind = END;
         private int at = 0;
         private int value = 0;
         private long name = 0;
+
         private int faultKind = 0;
         private int faultAt = 0;
 
@@ -730,38 +735,44 @@ public final class CoatWorks {
             return many;
         }
 
+        /** Finds the TOKENS up to the first that is none, and stands at the first. */
         void startReading(int mostBytes) {
-            limit = mostBytes;
-            next = 0;
+            int stop = Math.min(size, mostBytes);
+            int p = 0;
+            int n = 0;
+            boolean wrong = false;
+            while (p < stop && n < MOST && !wrong) {
+                if (isBlank(bytes[p])) {
+                    p++;
+                } else {
+                    p = readToken(n, p);
+                    wrong = kinds[n] == WRONG;
+                    n++;
+                }
+            }
+            if (!wrong) {
+                // a text that is too long has no END: it is wrong at its limit
+                kinds[n] = size > mostBytes ? WRONG : END;
+                places[n] = stop;
+            }
             faultKind = 0;
             faultAt = 0;
-            advance();
+            standAt(0);
         }
 
-        void advance() {
-            int stop = Math.min(size, limit);
-            int p = next;
-            while (p < stop && isBlank(bytes[p])) {
-                p++;
+        /** The n-th TOKEN, which begins at from; answers where it ends. */
+        private int readToken(int n, int from) {
+            places[n] = from;
+            if (isLetter(bytes[from]) || isFigure(bytes[from])) {
+                return readRun(n, from);
             }
-            if (p >= stop) {
-                // a text that is too long has no END: it is wrong at its limit
-                kind = size > limit ? WRONG : END;
-                at = stop;
-                return;
-            }
-            at = p;
-            if (isLetter(bytes[p]) || isFigure(bytes[p])) {
-                readRun(p);
-                return;
-            }
-            kind = isSignByte(bytes[p]) ? SIGN : WRONG;
-            value = bytes[p];
-            next = p + 1;
+            kinds[n] = isSignByte(bytes[from]) ? SIGN : WRONG;
+            values[n] = bytes[from];
+            return from + 1;
         }
 
         /** A run of letters and digits is one WORD, one NUMBER, or no TOKEN; it may go beyond the limit. */
-        private void readRun(int from) {
+        private int readRun(int n, int from) {
             int letters = 0;
             int digits = 0;
             long code = 0;
@@ -777,25 +788,40 @@ public final class CoatWorks {
                 }
                 p++;
             }
-            next = p;
             if (digits == 0 && letters <= LONGEST_WORD) {
-                setWord(code);
-            } else if (letters == 0 && digits <= LONGEST_NUMBER) {
-                kind = NUMBER;
-                value = number;
+                setWord(n, code);
             } else {
-                kind = WRONG;
+                kinds[n] = letters == 0 && digits <= LONGEST_NUMBER ? NUMBER : WRONG;
+                values[n] = number;
+            }
+            return p;
+        }
+
+        private void setWord(int n, long code) {
+            kinds[n] = NAME;
+            names[n] = code;
+            for (int i = 0; i < WORD_COUNT; i++) {
+                if (wordCodes[i] == code) {
+                    kinds[n] = KEYWORD;
+                    values[n] = i;
+                }
             }
         }
 
-        private void setWord(long code) {
-            kind = NAME;
-            name = code;
-            for (int i = 0; i < WORD_COUNT; i++) {
-                if (wordCodes[i] == code) {
-                    kind = KEYWORD;
-                    value = i;
-                }
+        /** Goes on to the next TOKEN; there is none behind END or WRONG. */
+        void advance() {
+            if (kind != END && kind != WRONG) {
+                standAt(cursor + 1);
+            }
+        }
+
+        private void standAt(int n) {
+            if (within(n, 0, MOST)) {
+                cursor = n;
+                kind = kinds[n];
+                at = places[n];
+                value = values[n];
+                name = names[n];
             }
         }
 
@@ -1185,7 +1211,7 @@ public final class CoatWorks {
                 case WORD_IS:
                     return readIs(tape, house);
                 case WORD_STANDS:
-                    return readNumbered(tape, word, 0, SOLD);
+                    return readStands(tape);
                 case WORD_FAST:
                 case WORD_CLAIMED:
                     addStep(word, 0, 0);
@@ -1225,13 +1251,15 @@ public final class CoatWorks {
             }
             int how = tape.value;
             tape.advance();
-            return readNumbered(tape, word, how, 999);
-        }
-
-        private boolean readNumbered(Tape tape, int word, int how, int most) {
-            int compared = tape.takeNumber(0, most);
+            int compared = tape.takeNumber(0, 999);
             addStep(word, how, compared);
             return compared != NONE;
+        }
+
+        private boolean readStands(Tape tape) {
+            int standing = tape.takeNumber(0, SOLD);
+            addStep(WORD_STANDS, 0, standing);
+            return standing != NONE;
         }
 
         private void addStep(int word, int how, int compared) {

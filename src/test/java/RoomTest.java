@@ -32,6 +32,8 @@ public final class RoomTest {
             }
         }
         Bench.rule(x, "no(fast and claimed or loaded>2 and no size=3)");
+        x.image(0);
+        x.image(1);
         return x;
     }
 
