@@ -687,6 +687,7 @@ public final class CoatWorks {
         private final int[] places = new int[MOST + 1];
         private final int[] values = new int[MOST + 1];
         private final long[] names = new long[MOST + 1];
+        private int lastToken = 0;
 
         // the TOKEN that stands
         private int cursor = 0;
@@ -750,6 +751,7 @@ public final class CoatWorks {
                     n++;
                 }
             }
+            lastToken = wrong ? n - 1 : n;
             if (!wrong) {
                 // a text that is too long has no END: it is wrong at its limit
                 kinds[n] = size > mostBytes ? WRONG : END;
@@ -757,7 +759,8 @@ public final class CoatWorks {
             }
             faultKind = 0;
             faultAt = 0;
-            standAt(0);
+            cursor = -1;
+            advance();
         }
 
         /** The n-th TOKEN, which begins at from; answers where it ends. */
@@ -808,20 +811,14 @@ public final class CoatWorks {
             }
         }
 
-        /** Goes on to the next TOKEN; there is none behind END or WRONG. */
+        /** Goes on to the next TOKEN; the last one stays. */
         void advance() {
-            if (kind != END && kind != WRONG) {
-                standAt(cursor + 1);
-            }
-        }
-
-        private void standAt(int n) {
-            if (within(n, 0, MOST)) {
-                cursor = n;
-                kind = kinds[n];
-                at = places[n];
-                value = values[n];
-                name = names[n];
+            if (cursor < lastToken) {
+                cursor++;
+                kind = kinds[cursor];
+                at = places[cursor];
+                value = values[cursor];
+                name = names[cursor];
             }
         }
 
@@ -1633,7 +1630,7 @@ public final class CoatWorks {
             for (int done = 0; done < all; done++) {
                 int first = firstOutside(done);
                 // LOADS done so far fill whole days from that day on
-                if (fewest[done] < loadsADay * (due[first] - day + 1)) {
+                if (fewest[done] < Math.min(NEVER, loadsADay * (due[first] - day + 1))) {
                     addLoads(done, first, all);
                 }
             }
