@@ -13,6 +13,7 @@ public final class ClaimsTest {
         aClaimWithoutCause();
         aClaimThatStandsNoMore();
         theFirstOfLikeOnes();
+        causesAgain();
         for (int seed = 1; seed <= 500; seed++) {
             againstAllSets(new Random(seed), seed);
         }
@@ -139,6 +140,34 @@ public final class ClaimsTest {
         Bench.due("causes()", x.causes(), 2);
         Bench.due("cause(0)", x.cause(0), 3);
         Bench.due("cause(1)", x.cause(1), 9);
+    }
+
+    /** What an earlier causes() found counts no more. */
+    private static void causesAgain() {
+        CoatWorks x = Bench.works(HOUSE);
+        for (int t = 0; t < 3; t++) {
+            x.ticket(3 * t, 1, 1, 1, 39 - t, 9);
+            x.news(t, 1, 0);
+        }
+        x.claim(0);
+        x.loaded(0, 5);
+        Bench.due("causes()", x.causes(), 1);
+        Bench.due("cause(0)", x.cause(0), 5);
+        x.loaded(0, 6);
+        x.loaded(1, 5);
+        x.claim(1);
+        Bench.due("causes()", x.causes(), 2);
+        Bench.due("cause(0)", x.cause(0), 5);
+        Bench.due("cause(1)", x.cause(1), 6);
+        CoatWorks y = Bench.works(HOUSE);
+        for (int t = 0; t < 3; t++) {
+            y.ticket(t == 0 ? 3 : 0, 1, 1, 1, t == 2 ? 0 : 39, 9);
+            y.news(t, 1, 0);
+        }
+        y.claim(0);
+        y.claim(1);
+        Bench.due("causes() of the last counter", y.causes(), 1);
+        Bench.due("cause(0) of the last counter", y.cause(0), 239);
     }
 
     private static void againstAllSets(Random random, int seed) {

@@ -10,6 +10,7 @@ public final class FoundTest {
         whatFits();
         sureStays();
         manyWays();
+        aChainOfEight();
         for (int seed = 1; seed <= 700; seed++) {
             againstAllWays(new Random(seed), seed);
         }
@@ -29,6 +30,8 @@ public final class FoundTest {
         }
         Bench.due("found of eight", Bench.found(x, new int[48]), 0);
         Bench.due("found of one", Bench.found(x, 0, 0, 1, 255, 10, 10), 1);
+        x.ticket(5, 1, 9, 255, 1, 9);
+        Bench.due("the greatest shade and size", Bench.found(x, 1, 2, 9, 1, 0, 1), 1);
         Bench.due("found of a new object", new CoatWorks().found(), -1);
     }
 
@@ -106,6 +109,25 @@ public final class FoundTest {
         Bench.due("each its own", Bench.found(x, coats), 1);
         for (int i = 0; i < 8; i++) {
             Bench.due("sure(" + i + ")", x.sure(i), 30 + i);
+        }
+    }
+
+    /** Coats 0 to 6 may each have one of two TICKETS, till coat 7 takes the first. */
+    private static void aChainOfEight() {
+        CoatWorks x = Bench.works(HOUSE);
+        int[] coats = new int[48];
+        for (int i = 0; i < 8; i++) {
+            x.ticket(0, 1, 1, (1 << i | 1 << i >> 1) & 127, 1, 9);
+            int[] coat = {0, 0, 1, i < 7 ? 1 << i : 0, i < 7 ? 10 : 0, i < 7 ? 10 : 0};
+            System.arraycopy(coat, 0, coats, 6 * i, 6);
+        }
+        Bench.due("seven of the chain", Bench.found(x, java.util.Arrays.copyOf(coats, 42)), 8);
+        for (int i = 0; i < 7; i++) {
+            Bench.due("not sure(" + i + ")", x.sure(i), -1);
+        }
+        Bench.due("all of the chain", Bench.found(x, coats), 1);
+        for (int i = 0; i < 8; i++) {
+            Bench.due("sure(" + i + ")", x.sure(i), i < 7 ? i + 1 : 0);
         }
     }
 

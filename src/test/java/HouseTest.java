@@ -16,6 +16,7 @@ public final class HouseTest {
         aFaultLeavesTheHouse();
         aNewHouseEmpties();
         settings();
+        houseAfterHouse();
         Bench.finish("HouseTest");
     }
 
@@ -250,6 +251,44 @@ public final class HouseTest {
         Bench.due("not claimed", x.news(0, 1, 3) + 10 * x.claim(0), 10);
         x.loaded(0, 7);
         Bench.due("no drum told of 7", x.recall(0, 0), 0);
+    }
+
+    /** Nothing of an earlier HOUSE, nor of a faulty text, is left in a later one. */
+    private static void houseAfterHouse() {
+        String rich = "spot s;spot t;agent a 5 s 20 t 20;agent b 5 s 20;cloth c 9 100 bleeds not b;cloth d 9 100 bleeds;"
+                + "drum p 9 0;drum q 99 0;drum r 99 0;drum u 99 0;loads 4;sell 1;lose 99;express 300;";
+        String poor = "spot s;agent a 5;agent b 5;cloth c 9 100;cloth d 9 100;drum p 9 9;";
+        CoatWorks x = Bench.works(rich);
+        for (int turn = 0; turn < 4; turn++) {
+            Bench.due("the rich house", Bench.house(x, rich), 14);
+            x.ticket(101, 100, 1, 1, 1, 0);
+            Bench.due("rich express", x.about(0, 8), 300);
+            Bench.due("rich out", Bench.out(x, 0, 1, 10, 10), 1280000000L);
+            Bench.due("rich best", Bench.best(x, 0, 10, 10), 5 * 1280000000L);
+            Bench.due("rich loads", Bench.loads(x, 0), 1);
+            if (turn % 2 == 1) {
+                Bench.due("a faulty house", Bench.house(x, rich + "loads 4;") < 0, true);
+            }
+            Bench.due("the poor house", Bench.house(x, poor), 6);
+            x.ticket(100, 91, 1, 1, 1, 0);
+            x.ticket(0, 90, 1, 1, 1, 0);
+            x.ticket(5, 30, 1, 1, 1, 0);
+            x.ticket(1, 30, 1, 1, 1, 0);
+            Bench.due("poor express", x.about(0, 8), 150);
+            Bench.due("poor out", Bench.out(x, 0, 6, 20), 0);
+            Bench.due("poor best", Bench.best(x, 0, 20), 10 * 1280000000L);
+            Bench.due("poor order", 10 * x.bestAt(0) + x.bestAt(1), 1);
+            Bench.due("too heavy for the poor drum", Bench.loads(x, 0), -1);
+            Bench.due("not too heavy", Bench.loads(x, 1), 1);
+            Bench.due("two loads", Bench.loads(x, 1, 2), 2);
+            Bench.due("not three", Bench.loads(x, 1, 2, 3), -1);
+            x.loaded(2, 8);
+            x.loaded(3, 8);
+            Bench.due("none bleeds", x.run(-1), 0);
+        }
+        CoatWorks four = Bench.works("cloth c 0 1;drum p 1 1;drum q 1 1;drum r 1 1;drum s 1 1;");
+        four.ticket(0, 1, 1, 1, 1, 9);
+        Bench.due("four drums that are too hot", Bench.loads(four, 0), -1);
     }
 
     private static void settings() {

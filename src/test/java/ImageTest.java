@@ -1,13 +1,15 @@
 /** Promises 41 and 42: what images keep, and what they leave alone. */
 public final class ImageTest {
-    private static final String HOUSE = "spot s;agent a 5 s 10;cloth c 5 100 bleeds;cloth d 4 200;drum p 9 7;"
-            + "loads 1;sell 3;lose 1;express 200;";
-    private static final String OTHER = "spot s;spot t;agent a 6 s 11;agent b 1;cloth x 1 7;drum q 1 1;drum r 2 2;";
+    private static final String HOUSE = "spot s;agent a 5 s 10;agent b 4 s 12;cloth c 5 100 bleeds not b;cloth d 4 200;"
+            + "drum p 9 7;drum o 7 3;loads 1;sell 3;lose 1;express 200;";
+    private static final String OTHER = "spot s;spot t;agent a 6 s 11;agent b 1;cloth x 1 7;cloth y 2 8;drum q 1 1;"
+            + "drum r 2 2;";
 
     public static void main(String[] args) {
         wrongPlaces();
         allIsKept();
         imagesStandAlone();
+        theHouseIsKept();
         theRestStays();
         Bench.finish("ImageTest");
     }
@@ -30,7 +32,7 @@ public final class ImageTest {
         x.later(2);
         x.ticket(2, 10, 1, 3, 1, 2);
         x.ticket(100, 20, 2, 5, 1, 4);
-        x.ticket(3, 30, 3, 7, 2, 5);
+        x.ticket(3, 30, 3, 7, 2, 25);
         x.later(4);
         x.news(0, 1, 3);
         x.news(0, 1, 4);
@@ -43,7 +45,7 @@ public final class ImageTest {
         x.place(3, 60, 70);
         x.solvent(50, 4, 30);
         x.solvent(5, 40, 30);
-        Bench.rule(x, "is c and load=9");
+        Bench.rule(x, "is c and load<10 and load>8");
         return x;
     }
 
@@ -83,7 +85,11 @@ public final class ImageTest {
         a[n++] = Bench.best(x, 0, 20);
         a[n++] = Bench.best(x, 0, 10, 10);
         a[n++] = Bench.out(x, 0, 1, 20);
+        a[n++] = Bench.best(x, 1, 20);
         a[n++] = Bench.loads(x, 2);
+        a[n++] = Bench.patience(x, 2);
+        a[n++] = Bench.hurry(x, 2);
+        a[n++] = x.fault();
         a[n++] = Bench.found(x, 1, 0, 3, 1, 10, 10);
         return a;
     }
@@ -112,12 +118,12 @@ public final class ImageTest {
         x.place(3, 1, 1);
         x.place(4, 9, 9);
         x.solvent(900, 1, 1);
-        Bench.rule(x, "fast");
+        Bench.rule(x, "fast or load>8");
         long[] second = told(x);
         Bench.due("image(1)", x.image(1), true);
         Bench.due("restore(0)", x.restore(0), true);
         same("restored 0", told(x), first);
-        Bench.due("another house", Bench.house(x, OTHER), 7);
+        Bench.due("another house", Bench.house(x, OTHER), 8);
         x.later(50);
         x.ticket(0, 5, 5, 5, 5, 150);
         x.drum(9, 1);
@@ -164,6 +170,36 @@ public final class ImageTest {
         x.restore(0);
         Bench.due("names are kept: is x", Bench.rule(x, "is x"), -4);
         Bench.due("names are kept: is c", Bench.rule(x, "is c"), 1);
+    }
+
+    /** What only later calls show of a HOUSE, a BOOK and a RULE. */
+    private static void theHouseIsKept() {
+        CoatWorks x = filled();
+        x.image(0);
+        for (int turn = 0; turn < 2; turn++) {
+            Bench.house(x, OTHER);
+            x.solvent(7, 7, 7);
+            x.solvent(8, 8, 8);
+            Bench.rule(x, "size=1 and size=2 and size=3 and size=4");
+            x.image(1);
+            x.restore(0);
+            Bench.due("price", x.ticket(105, 90, 1, 1, 1, 20) == 3 ? x.about(3, 8) : -1, 400);
+            x.ticket(4, 70, 1, 1, 1, 20);
+            Bench.due("kilos: too heavy", Bench.loads(x, 3), -1);
+            Bench.due("kilos: not too heavy", Bench.loads(x, 4), 1);
+            Bench.due("heat of the cloth and the drum", Bench.patience(x, 4), 20);
+            Bench.due("agents that may not be used", Bench.best(x, 0, 20), 5 * 1280000000L);
+            Bench.due("agents that may be used", Bench.out(x, 1, 1, 20), 768000000L);
+            Bench.due("bleeds", x.run(-1), 1);
+            Bench.due("lost(0)", x.lost(0), 20);
+            Bench.due("lost(1)", x.lost(1), 5);
+            Bench.due("broken()", x.broken(), 0);
+            Bench.due("the rule", 10 * x.meets(0) + x.meets(1), 1);
+            x.restore(1);
+            Bench.due("price of the other", x.ticket(103, 10, 1, 1, 1, 20) == 0 ? x.about(0, 8) : -1, 12);
+            Bench.due("lost(1) of the other", x.lost(1), 7);
+            Bench.due("the rule of the other", x.meets(-1), 0);
+        }
     }
 
     private static void theRestStays() {

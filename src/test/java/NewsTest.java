@@ -79,6 +79,17 @@ public final class NewsTest {
         Bench.due("news 240", x.news(0, 1, 0), -1);
         Bench.due("count(5)", x.count(5), 240);
         Bench.due("stands as the last", x.stands(0, 0, 0), 5);
+        x.contract(1, 0, 1);
+        Bench.due("owed(1)", x.owed(1), 0);
+        Bench.due("twice(0)", x.twice(0), 0);
+        Bench.due("unfetched(199, 0)", x.unfetched(199, 0), 0);
+        Bench.house(x, HOUSE);
+        x.ticket(0, 1, 1, 1, 1, 9);
+        x.later(3);
+        x.contract(1, 0, 1);
+        Bench.due("owed(1) without news", x.owed(1), 3);
+        x.news(0, 1, 2);
+        Bench.due("twice(0) of one news", x.twice(0), 0);
     }
 
     private static void contracts() {

@@ -13,6 +13,7 @@ public final class RuleTest {
         eachWhat();
         noRule();
         aFaultLeavesTheRule();
+        ruleAfterRule();
         for (int seed = 1; seed <= 400; seed++) {
             new Case(seed).check();
         }
@@ -104,6 +105,7 @@ public final class RuleTest {
 
     private static void tooManyOnes() {
         good(many("fast", " or ", 20), 20);
+        good(many("fast", " and ", 20), 20);
         good(many("no fast", " or ", 10), 20);
         good(many("(fast)", "and ", 10), 20);
         bad(many("fast", " or ", 21), 4, 160);
@@ -205,6 +207,17 @@ public final class RuleTest {
         x.ticket(0, 1, 1, 1, 1, 9);
         Bench.due("meets(-1) without", x.meets(-1), -1);
         Bench.due("meets(0) without", x.meets(0), -1);
+    }
+
+    private static void ruleAfterRule() {
+        CoatWorks x = Bench.works(HOUSE);
+        x.ticket(0, 1, 1, 1, 1, 9);
+        x.ticket(100, 1, 1, 1, 1, 9);
+        for (int i = 0; i < 12; i++) {
+            meets(x, many("fast", " and ", 15) + " and no fast");
+            meets(x, "no " + many("fast", " or no ", 10), 0);
+            meets(x, "fast or fast", 1);
+        }
     }
 
     private static void aFaultLeavesTheRule() {
