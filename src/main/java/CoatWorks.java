@@ -757,8 +757,6 @@ public final class CoatWorks {
                 kinds[n] = size > mostBytes ? WRONG : END;
                 places[n] = stop;
             }
-            faultKind = 0;
-            faultAt = 0;
             cursor = -1;
             advance();
         }
@@ -1488,8 +1486,7 @@ public final class CoatWorks {
         private int bookDays = 0;
 
         Ledger() {
-            Arrays.fill(drumOfLoad, NONE);
-            Arrays.fill(contractDays, NONE);
+            forgetAllButPlaces();
         }
 
         void forgetAllButPlaces() {
@@ -1746,7 +1743,6 @@ public final class CoatWorks {
             tried = 0;
             if (!findOwner(coat, 0)) {
                 sureTickets[coat] = owner;
-                ticketOf[coat] = owner;
                 coatOf[owner] = coat;
             }
             fitting[owner] |= 1 << coat;

@@ -1,7 +1,7 @@
 /** Promises 41 and 42: what images keep, and what they leave alone. */
 public final class ImageTest {
     private static final String HOUSE = "spot s;agent a 5 s 10;agent b 4 s 12;cloth c 5 100 bleeds not b;cloth d 4 200;"
-            + "drum p 9 7;drum o 7 3;loads 1;sell 3;lose 1;express 200;";
+            + "drum p 9 7;drum o 7 3;loads 1;sell 3;lose 5;express 200;";
     private static final String OTHER = "spot s;spot t;agent a 6 s 11;agent b 1;cloth x 1 7;cloth y 2 8;drum q 1 1;"
             + "drum r 2 2;";
 
@@ -193,7 +193,7 @@ public final class ImageTest {
             Bench.due("bleeds", x.run(-1), 1);
             Bench.due("lost(0)", x.lost(0), 20);
             Bench.due("lost(1)", x.lost(1), 5);
-            Bench.due("broken()", x.broken(), 0);
+            Bench.due("broken()", x.broken(), -1);
             Bench.due("the rule", 10 * x.meets(0) + x.meets(1), 1);
             x.restore(1);
             Bench.due("price of the other", x.ticket(103, 10, 1, 1, 1, 20) == 0 ? x.about(0, 8) : -1, 12);

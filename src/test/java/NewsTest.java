@@ -93,6 +93,7 @@ public final class NewsTest {
     }
 
     private static void contracts() {
+        CoatWorks bare = new CoatWorks();
         CoatWorks x = Bench.works(HOUSE);
         Bench.due("contract(-1, 0, 0)", x.contract(-1, 0, 0), false);
         Bench.due("contract(40, 0, 0)", x.contract(40, 0, 0), false);
@@ -103,6 +104,9 @@ public final class NewsTest {
         Bench.due("owed(0) without one", x.owed(0), -1);
         Bench.due("owed(-1)", x.owed(-1), -1);
         Bench.due("owed(40)", x.owed(40), -1);
+        Bench.due("contract of a new object", bare.contract(3, 30, 1), true);
+        Bench.due("owed(2) of a new object", bare.owed(2), -1);
+        Bench.due("owed(3) of a new object", bare.owed(3), 0);
         Bench.due("contract(39, 30, 999)", x.contract(39, 30, 999), true);
         Bench.due("owed(39)", x.owed(39), 0);
         x.ticket(0, 1, 1, 1, 39, 9);
