@@ -10,6 +10,7 @@ public final class ImageTest {
         allIsKept();
         imagesStandAlone();
         theHouseIsKept();
+        theBookIsKept();
         theRestStays();
         Bench.finish("ImageTest");
     }
@@ -199,6 +200,32 @@ public final class ImageTest {
             Bench.due("price of the other", x.ticket(103, 10, 1, 1, 1, 20) == 0 ? x.about(0, 8) : -1, 12);
             Bench.due("lost(1) of the other", x.lost(1), 7);
             Bench.due("the rule of the other", x.meets(-1), 0);
+        }
+    }
+
+    /** Each part of each DAY in the BOOK is kept. */
+    private static void theBookIsKept() {
+        CoatWorks x = Bench.works("lose 10;");
+        for (int part = 0; part < 3; part++) {
+            Bench.house(x, "lose 10;");
+            x.solvent(100, 10, 0);
+            x.solvent(20, 2, 0);
+            x.image(0);
+            Bench.house(x, "lose 10;");
+            x.solvent(part == 0 ? 101 : 100, part == 1 ? 9 : 10, part == 2 ? 1 : 0);
+            x.solvent(20, 2, 0);
+            int broken = part < 2 ? 0 : -1;
+            Bench.due("another book", x.broken(), broken);
+            x.image(1);
+            x.restore(0);
+            Bench.due("broken() by the book that was kept", x.broken(), -1);
+            Bench.due("lost(0)", x.lost(0), 100);
+            Bench.due("lost(1)", x.lost(1), 20);
+            x.solvent(1, 0, 0);
+            Bench.due("broken() on a day more", x.broken(), 2);
+            x.restore(1);
+            Bench.due("broken() by the other", x.broken(), broken);
+            Bench.due("lost(1) by the other", x.lost(1), part == 2 ? 21 : 20);
         }
     }
 

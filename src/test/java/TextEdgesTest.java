@@ -20,6 +20,7 @@ public final class TextEdgesTest {
         namesTwiceInOneLine();
         sixSixEightFour();
         allSortsFull();
+        allNamesKnown();
         numberedEachSortByItself();
         theFirstFaultAlongTheText();
         ofOneTokenTheLeast();
@@ -380,6 +381,26 @@ public final class TextEdgesTest {
         for (int what = 0; what < 4; what++) {
             Bench.due("count(" + what + ")", x.count(what), most[what]);
         }
+    }
+
+    /** When all sorts are full, each NAME is still known by its sort and number. */
+    private static void allNamesKnown() {
+        String all = many("agent", " 1", 6) + many("cloth", " 1 1", 8) + many("drum", " 1 1", 4) + many("spot", "", 6);
+        CoatWorks x = Bench.works(all);
+        for (int c = 0; c < 8; c++) {
+            x.ticket(3 * c, 1, 1, 1, 1, 1);
+            Bench.due("is c" + (char) ('a' + c), Bench.rule(x, "is c" + (char) ('a' + c)), 1);
+            Bench.due("the cloth of that name", x.meets(0), c);
+            Bench.due("and no other", x.meets(-1), 1);
+        }
+        for (String other : new String[] {"aa", "af", "da", "dd", "sa", "sf", "ci"}) {
+            Bench.due("is " + other, Bench.rule(x, "is " + other), -4);
+        }
+        String most = many("agent", " 1", 6) + many("cloth", " 1 1", 8) + many("drum", " 1 1", 4) + many("spot", "", 5);
+        for (String name : "aa af ca ch da dd sa se".split(" ")) {
+            faultAt(3, most + "spot @" + name + ";");
+        }
+        house(most + "spot sf;", 24);
     }
 
     // ---- "numbered each sort by itself, from 0" ----
