@@ -474,6 +474,8 @@ public final class SearchEdgesTest {
         for (int i = 0; i < 4; i++) {
             Bench.due("bestAt(" + i + ") of three", x.bestAt(i), left[i]);
         }
+        CoatWorks dear = Bench.works("spot s;agent a 99;agent b 99;agent e 99;agent f 99;agent g 99;agent h 99;cloth c 5 10;");
+        Bench.due("the most that an order can cost", Bench.best(dear, 0, 20), 6 * 99 * WHOLE);
         CoatWorks y = Bench.works("spot s;agent a 99;agent b 98 s 1;cloth c 5 10;");
         Bench.due("the dearest comes last", Bench.best(y, 0, 20), 98 * WHOLE + 99 * WHOLE / 20 * 19);
         Bench.due("bestAt(0)", y.bestAt(0), 1);

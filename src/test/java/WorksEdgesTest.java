@@ -41,6 +41,7 @@ public final class WorksEdgesTest {
         unfetchedToTheDay();
         meetsEachSign();
         imagesInTwoPlaces();
+        theTapeStays();
         counts();
         Bench.finish("WorksEdgesTest");
     }
@@ -84,6 +85,14 @@ public final class WorksEdgesTest {
         Bench.due("unfetched(199, 0)", x.unfetched(199, 0), 0);
         Bench.due("unfetched(199, 1)", x.unfetched(199, 1), 0);
         Bench.due("unfetched(199, 2)", x.unfetched(199, 2), -1);
+        for (int i = -1; i <= 12; i++) {
+            Bench.due("sure(" + i + ") ahead of any", x.sure(i), -1);
+            Bench.due("bestAt(" + i + ") ahead of any", x.bestAt(i), -1);
+            Bench.due("recalled(" + i + ") ahead of any", x.recalled(i), -1);
+            Bench.due("cause(" + i + ") of none", x.cause(i), -1);
+            Bench.due("cause(" + i + ") ahead of any", new CoatWorks().cause(i), -1);
+            Bench.due("roundAt(" + i + ") ahead of any", x.roundAt(i), -1);
+        }
         Bench.due("rule of nothing", x.rule(), -1);
         Bench.due("its fault", x.fault(), 1);
         Bench.due("house of nothing", x.house(), 0);
@@ -953,6 +962,27 @@ public final class WorksEdgesTest {
         Bench.due("the last counter's place", Bench.round(x, 39), 196);
         Bench.due("the last load's drum", x.recall(0, 3), 1);
         Bench.due("is the last ticket's", x.recalled(0), 39);
+    }
+
+    // ---- promise 42: "(the tape, and what other calls told last, stays)" ----
+
+    private static void theTapeStays() {
+        CoatWorks x = Watch.richWorks();
+        Bench.due("restore(0)", x.restore(0), true);
+        Bench.due("bytes of the tape", x.count(9), 7);
+        Bench.due("the tape's bytes are as they were", x.rule(), 1);
+        Bench.due("size<03", x.meets(-1), 2);
+        CoatWorks y = Watch.richWorks();
+        y.end(0);
+        y.image(1);
+        Bench.feedText(y, "size<03");
+        Bench.due("an image that was kept with an empty tape", y.restore(1), true);
+        Bench.due("bytes of the tape", y.count(9), 7);
+        Bench.due("the fault stays", y.fault(), 2);
+        Bench.due("sure(0) stays", y.sure(0), 2);
+        Bench.due("bestAt(0) stays", y.bestAt(0), 1);
+        Bench.due("recalled(1) stays", y.recalled(1), 1);
+        Bench.due("roundAt(2) stays", y.roundAt(2), 39);
     }
 
     // ---- promise 43: "NONE for another what" ----
