@@ -912,8 +912,6 @@ public final class CoatWorks {
             copyRow(other.drumKilos, drumKilos);
             copyRow(other.drumHeat, drumHeat);
             copyRow(other.settings, settings);
-            settingsTold = other.settingsTold;
-            lines = other.lines;
         }
 
         private void forgetAll() {

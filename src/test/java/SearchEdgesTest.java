@@ -16,12 +16,14 @@ public final class SearchEdgesTest {
         patienceToTheDay();
         hurriedFirst();
         tapeIsEmptyThen();
+        nothingBehindTheEnd();
         oneToEightCoats();
         sixBytesEach();
         whatFits();
         marksSeen();
         digitsOfThePin();
         sureOnes();
+        aChainOfNineTickets();
         sureOfTheLatest();
         chancesTogetherTwenty();
         ofEachSpotOne();
@@ -264,6 +266,34 @@ public final class SearchEdgesTest {
         Bench.due("behind house", x.count(9), 0);
     }
 
+    /** What was cut off the tape, or stood on it earlier, is not read. */
+    private static void nothingBehindTheEnd() {
+        CoatWorks x = Bench.works("spot s;spot t;agent a 3 s 20;cloth c 5 10;drum d 9 0;");
+        x.ticket(0, 1, 1, 1, 1, 9);
+        x.ticket(0, 1, 1, 1, 1, 9);
+        x.feed(0x0a0a0711, 0x22334455, -1, -1, -1);
+        x.end(2);
+        Bench.due("best of the first two", x.best(0), 3 * WHOLE);
+        x.feed(0x0a0a0711, 0x22334455, -1, -1, -1);
+        x.end(2);
+        Bench.due("out of the first two", x.out(0, 1), WHOLE / 2);
+        x.feed(0x0001ffff, -1, -1, -1, -1);
+        x.end(2);
+        Bench.due("loads of the first two", x.loads(), 1);
+        x.feed(0x0001ffff, -1, -1, -1, -1);
+        x.end(2);
+        Bench.due("round of the first two", x.round(), 200);
+        x.feed(0x00000100, 0x0a0affff, -1, -1, -1);
+        x.end(6);
+        Bench.due("found of the first six", x.found(), 2);
+        x.feed(0x66617374, 0x66617374, -1, -1, -1);
+        x.end(4);
+        Bench.due("rule of the first four", x.rule(), 1);
+        x.feed(0x73706f74, 0x20613b73, 0x706f7420, 0x613b3b3b, -1);
+        x.end(7);
+        Bench.due("house of the first seven", x.house(), 1);
+    }
+
     // ---- "FOUND coats (1 to 8)" ----
 
     private static int[] coats(int many, int... coat) {
@@ -390,6 +420,29 @@ public final class SearchEdgesTest {
         Bench.due("so the third is 0's", x.sure(2), 0);
         Bench.due("there is no fourth", x.sure(3), -1);
         Bench.due("nor one ahead of the first", x.sure(-1), -1);
+    }
+
+    /** Eight coats, each of which may be of one of two TICKETS, in a chain of nine: one TICKET is left over. */
+    private static void aChainOfNineTickets() {
+        for (int turned = 0; turned < 2; turned++) {
+            CoatWorks x = Bench.works("cloth c 5 10;");
+            for (int t = 0; t <= 8; t++) {
+                x.ticket(0, 1, 0, (1 << t | 1 << t >> 1) & 255, 1, 9);
+            }
+            int[] tape = coats(8, 0, 0, 0, 0, 10, 10);
+            for (int i = 0; i < 8; i++) {
+                tape[6 * i + 3] = 1 << (turned == 0 ? i : 7 - i);
+            }
+            Bench.due("nine ways", Bench.found(x, tape), 9);
+            for (int i = 0; i < 8; i++) {
+                Bench.due("sure(" + i + ") of nine ways", x.sure(i), -1);
+            }
+            x.news(turned == 0 ? 0 : 8, 3, 0);
+            Bench.due("one way, when one end of the chain is fetched", Bench.found(x, tape), 1);
+            for (int i = 0; i < 8; i++) {
+                Bench.due("sure(" + i + ") of one way", x.sure(i), turned == 0 ? i + 1 : 7 - i);
+            }
+        }
     }
 
     // ---- promise 15: "of the latest found() that was above 0"; "ahead of any" ----

@@ -113,6 +113,15 @@ public final class TextEdgesTest {
         faultAt(1, "spot a@B;");
         house("spot aaaaaaa;spot aaaaaa;spot aaaaaab;", 3);
         faultAt(3, "spot aaaaaaa;spot @aaaaaaa;");
+        // WORDS of one letter, told once, twice, .. are unlike
+        for (char c = 'a'; c <= 'z'; c++) {
+            StringBuilder text = new StringBuilder();
+            for (int n = 1; n <= 6; n++) {
+                text.append("spot ").append(String.valueOf(c).repeat(n)).append(';');
+            }
+            house(text.toString(), 6);
+            house("spot " + c + "q;spot q" + c + "a;spot a" + c + "q;", 3);
+        }
     }
 
     // ---- "NUMBERS: 1 to 3 digits" ----
@@ -574,6 +583,10 @@ public final class TextEdgesTest {
         rule(joined("fast", " or ", 19), 19);
         rule(joined("fast", " or ", 20), 20);
         ruleFaultAt(4, joined("fast", " or ", 20) + " or @fast");
+        rule(joined("fast", " and ", 19), 19);
+        rule(joined("fast", " and ", 20), 20);
+        ruleFaultAt(4, joined("fast", " and ", 20) + " and @fast");
+        ruleFaultAt(4, joined("(fast)", "and ", 10) + "and @no fast");
         rule(joined("no fast", " or ", 10), 20);
         ruleFaultAt(4, joined("no fast", " or ", 10) + " or @no fast");
         rule(joined("(fast)", "or ", 10), 20);
