@@ -14,6 +14,7 @@ public final class SearchEdgesTest {
         loadsOnEachDay();
         fewestIsNotSoonest();
         patienceToTheDay();
+        patienceWithMoreLoads();
         hurriedFirst();
         tapeIsEmptyThen();
         nothingBehindTheEnd();
@@ -219,6 +220,20 @@ public final class SearchEdgesTest {
         Bench.due("one alone", Bench.patience(x, 0), 8);
         x.later(1);
         Bench.due("one alone, late", Bench.patience(x, 0), -1);
+    }
+
+    /** "all can still be done so": none late is what is asked, not that it takes no more than the FEWEST LOADS. */
+    private static void patienceWithMoreLoads() {
+        CoatWorks x = Bench.works("cloth c 5 10;drum d 10 5;loads 1;");
+        x.ticket(0, 40, 1, 1, 1, 1);
+        x.ticket(0, 40, 1, 1, 1, 1);
+        x.ticket(0, 60, 1, 1, 1, 9);
+        x.ticket(0, 60, 1, 1, 1, 9);
+        Bench.due("an early one with a late one each", Bench.loads(x, 0, 1, 2, 3), 2);
+        Bench.due("both early ones in one load a day later", Bench.patience(x, 0, 1, 2, 3), 1);
+        x.later(1);
+        Bench.due("which takes three", Bench.loads(x, 0, 1, 2, 3), 3);
+        Bench.due("and then it can wait no more", Bench.patience(x, 0, 1, 2, 3), 1);
     }
 
     // ---- promise 22: "if the first of them were DUE TODAY" ----
